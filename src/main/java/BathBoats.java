@@ -347,11 +347,14 @@ public final class BathBoats {
     public int rescue(int boat, int amount) throws NoSuchElementException, IllegalArgumentException {
         requireBoat(boat);
         requireArgument(amount, 1, MAX_SOAP);
+        if (!bath.isAfloat(boat)) {
+            return NONE;
+        }
         trial.copyFrom(bath);
         int longest = lifeInTrial(boat);
         int best = NONE;
         // no life is longer than LIFE, so there the search may end
-        for (int cell = 0; cell < bath.cellCount() && bath.isAfloat(boat) && longest < LIFE; cell++) {
+        for (int cell = 0; cell < bath.cellCount() && longest < LIFE; cell++) {
             trial.copyFrom(bath);
             trial.addSoap(cell, amount);
             int life = lifeInTrial(boat);
@@ -365,11 +368,14 @@ public final class BathBoats {
 
     public int refuge(int boat) throws NoSuchElementException {
         requireBoat(boat);
+        if (!bath.isAfloat(boat)) {
+            return NONE;
+        }
         trial.copyFrom(bath);
         int longest = lifeInTrial(boat);
         int best = NONE;
         // no life is longer than LIFE, so there the search may end
-        for (int cell = 0; cell < bath.cellCount() && bath.isAfloat(boat) && longest < LIFE; cell++) {
+        for (int cell = 0; cell < bath.cellCount() && longest < LIFE; cell++) {
             if (bath.hasOtherBoat(cell, boat)) {
                 continue;
             }
@@ -882,7 +888,7 @@ public final class BathBoats {
         }
 
         void place(int boat, int x, int y) {
-            occupants.put(cellOf(boat), NONE);
+            occupants.put(cellAt(boats.get(boat, X), boats.get(boat, Y)), NONE);
             boats.put(boat, X, x);
             boats.put(boat, Y, y);
             occupants.put(cellAt(x, y), boat);
@@ -893,9 +899,12 @@ public final class BathBoats {
             boats.put(boat, DRIFT_Y, 0);
         }
 
+        static int limitDrift(int drift) {
+            return Math.max(-MAX_DRIFT, Math.min(drift, MAX_DRIFT));
+        }
+
         void addDrift(int boat, int component, int by) {
-            int drift = boats.get(boat, component) + by;
-            boats.put(boat, component, Math.max(-MAX_DRIFT, Math.min(drift, MAX_DRIFT)));
+            boats.put(boat, component, limitDrift(boats.get(boat, component) + by));
         }
 
         void endBoat(int boat, int state) {
@@ -1082,7 +1091,8 @@ public final class BathBoats {
             int weight = bath.boats.get(boat, Bath.WEIGHT);
             int weights = weight + bath.boats.get(other, Bath.WEIGHT);
             int thrust = bath.boats.get(boat, component) * weight;
-            bath.addDrift(other, component, weights > 0 ? thrust / weights : 0);
+            int growth = weights > 0 ? thrust / weights : 0;
+            bath.boats.put(other, component, Bath.limitDrift(bath.boats.get(other, component) + growth));
             bath.boats.put(boat, component, 0);
             bath.boats.put(boat, Bath.HITS, bath.boats.get(boat, Bath.HITS) + 1);
         }
@@ -1198,20 +1208,29 @@ public final class BathBoats {
             }
         }
 
+        private Bath slot(int i) {
+            return i >= 0 && i < kept.length ? kept[i] : null;
+        }
+
         void record(Bath bath) {
-            Bath slot = kept[next];
+            Bath slot = slot(next);
+            if (slot == null) {
+                return;
+            }
             slot.copyFrom(bath);
             next = (next + 1) % MAX_UNDO;
             count = Math.min(count + 1, MAX_UNDO);
         }
 
         boolean takeBack(Bath bath) {
-            if (count == 0) {
+            int last = (next + MAX_UNDO - 1) % MAX_UNDO;
+            Bath slot = slot(last);
+            if (count == 0 || slot == null) {
                 return false;
             }
-            next = (next + MAX_UNDO - 1) % MAX_UNDO;
+            bath.copyFrom(slot);
+            next = last;
             count--;
-            bath.copyFrom(kept[next]);
             return true;
         }
 
@@ -1336,9 +1355,10 @@ public final class BathBoats {
         }
 
         void expectSign(int sign) {
-            if (!acceptSign(sign)) {
+            if (!isSign(sign)) {
                 fail(NOT_ALLOWED);
             }
+            advance();
         }
 
         /** The number that stands here; the least one after an error, so that what follows stays in range. */
@@ -1485,6 +1505,8 @@ public final class BathBoats {
     /** Reads a query and evaluates it for all boats at once: the bit b of a result says whether it holds for boat b. */
     private static final class QueryReader {
         private static final int MAX_OPEN = 6;
+        // an operand is a number as it is, or PROPERTIES plus the property, which is below 0
+        private static final int PROPERTIES = -100;
         // properties that are not among the numbers of a boat
         private static final int OWN_NUMBER = 11;
         private static final int CELL_SOAP = 12;
@@ -1537,32 +1559,62 @@ public final class BathBoats {
 
         private int readFactor(int open) {
             boolean not = tokens.isWord("not");
-            if (!not && !tokens.isSign('(')) {
-                return readComparison();
+            if (not || tokens.isSign('(')) {
+                if (open >= MAX_OPEN) {
+                    tokens.fail(Tokens.TOO_MANY);
+                    return 0;
+                }
+                tokens.advance();
+                if (not) {
+                    return ~readFactor(open + 1) & (1 << bath.boatCount) - 1;
+                }
+                int holds = readTest(open + 1);
+                tokens.expectSign(')');
+                return holds;
             }
-            if (open >= MAX_OPEN) {
-                tokens.fail(Tokens.TOO_MANY);
-                return 0;
-            }
-            tokens.advance();
-            if (not) {
-                return ~readFactor(open + 1) & (1 << bath.boatCount) - 1;
-            }
-            int holds = readTest(open + 1);
-            tokens.expectSign(')');
-            return holds;
+            int left = takeOperand();
+            int sign = takeComparison();
+            int right = takeOperand();
+            return compare(left, sign, right);
         }
 
-        private int readComparison() {
-            int left = checkOperand();
+        private int takeOperand() {
+            int operand = PROPERTIES + Bath.X;
+            if (tokens.isWord("boat")) {
+                operand = PROPERTIES + OWN_NUMBER;
+            } else if (tokens.isWord("y")) {
+                operand = PROPERTIES + Bath.Y;
+            } else if (tokens.isWord("weight")) {
+                operand = PROPERTIES + Bath.WEIGHT;
+            } else if (tokens.isWord("strength")) {
+                operand = PROPERTIES + Bath.STRENGTH;
+            } else if (tokens.isWord("wet")) {
+                operand = PROPERTIES + Bath.WETNESS;
+            } else if (tokens.isWord("state")) {
+                operand = PROPERTIES + Bath.STATE;
+            } else if (tokens.isWord("soap")) {
+                operand = PROPERTIES + CELL_SOAP;
+            } else if (tokens.isWord("moves")) {
+                operand = PROPERTIES + Bath.MOVES;
+            } else if (tokens.isWord("hits")) {
+                operand = PROPERTIES + Bath.HITS;
+            } else if (!tokens.isWord("x")) {
+                operand = tokens.checkNumber(0, 9999);
+            }
             tokens.advance();
+            return operand;
+        }
+
+        private int takeComparison() {
             int sign = tokens.value;
             if (!tokens.isSign('<') && !tokens.isSign('=') && !tokens.isSign('>')) {
                 tokens.fail(Tokens.NOT_ALLOWED);
             }
             tokens.advance();
-            int right = checkOperand();
-            tokens.advance();
+            return sign;
+        }
+
+        private int compare(int left, int sign, int right) {
             int holds = 0;
             for (int b = 0; b < bath.boatCount; b++) {
                 int difference = operandOf(left, b) - operandOf(right, b);
@@ -1573,37 +1625,11 @@ public final class BathBoats {
             return holds;
         }
 
-        /** A number as it is, a property p as -1 - p. */
-        private int checkOperand() {
-            if (tokens.kind != Tokens.WORD) {
-                return tokens.checkNumber(0, 9999);
-            }
-            int property = propertyHere();
-            if (property == NONE) {
-                tokens.fail(Tokens.NOT_ALLOWED);
-            }
-            return -1 - property;
-        }
-
-        private int propertyHere() {
-            return tokens.isWord("boat") ? OWN_NUMBER
-                    : tokens.isWord("x") ? Bath.X
-                    : tokens.isWord("y") ? Bath.Y
-                    : tokens.isWord("weight") ? Bath.WEIGHT
-                    : tokens.isWord("strength") ? Bath.STRENGTH
-                    : tokens.isWord("wet") ? Bath.WETNESS
-                    : tokens.isWord("state") ? Bath.STATE
-                    : tokens.isWord("soap") ? CELL_SOAP
-                    : tokens.isWord("moves") ? Bath.MOVES
-                    : tokens.isWord("hits") ? Bath.HITS
-                    : NONE;
-        }
-
         private int operandOf(int operand, int boat) {
             if (operand >= 0) {
                 return operand;
             }
-            int property = -1 - operand;
+            int property = operand - PROPERTIES;
             if (property == OWN_NUMBER) {
                 return boat;
             }
