@@ -17,6 +17,7 @@ public final class ForecastTest {
         rescue();
         refuge();
         plug();
+        lastTurns();
         for (String text : BATHS) {
             againstTurns(text);
             againstOperations(text);
@@ -51,6 +52,9 @@ public final class ForecastTest {
         Check.due("not in all turns", x.emptyIn(), -1);
         x.setLevel(0);
         Check.due("at once", x.emptyIn(), 0);
+        BathBoats later = Check.bath("bath 5 5 level 100;drain 0 0 9 30;");
+        later.turn(1);
+        Check.due("by 30, a turn later", later.emptyIn(), 3);
         Check.due("clogged until the boat sinks", Check.bath("bath 5 5 level 9;drain 0 0 9 9;boat 0 0 10 3;").emptyIn(), 5);
         Check.due("with a tap", Check.bath("bath 5 5 level 9;drain 0 0 9 9;tap 1 1 9;").emptyIn(), -1);
     }
@@ -103,6 +107,30 @@ public final class ForecastTest {
         Check.badArgument("rescue(0, 0)", still, () -> still.rescue(0, 0));
         Check.badArgument("rescue(3, 0)", still, () -> still.rescue(3, 0));
         Check.badArgument("rescue(0, 100)", still, () -> still.rescue(0, 100));
+    }
+
+    /** A boat that drifts by 3 a turn, and so into the drain to its right in the very last turn of a life. */
+    private static BathBoats lastTurn() {
+        BathBoats x = Check.bath("bath 3 3 wind 9 0;drain 1 1 40 1;boat 0 1 33 99;");
+        x.blow(0, -20, 0);
+        return x;
+    }
+
+    private static void lastTurns() {
+        Check.part("promises 26 to 28, a life of 40 turns");
+        BathBoats x = lastTurn();
+        Check.due("endsIn(0)", x.endsIn(0), 40);
+        Check.due("rescue(0, 1)", x.rescue(0, 1), 4);
+        Check.due("refuge(0)", x.refuge(0), 0);
+        Check.due("plug()", x.plug(), 0);
+        x.blow(0, -3, 0);
+        Check.due("endsIn(0) one turn later", x.endsIn(0), 41);
+        Check.due("rescue(0, 1) is too late", x.rescue(0, 1), -1);
+        Check.due("refuge(0) is too late", x.refuge(0), -1);
+        Check.due("plug() is too late", x.plug(), -1);
+        BathBoats wet = Check.bath("bath 3 3 level 0;boat 1 1 9 40;soap 1 1 10;");
+        Check.due("endsIn(0) in soap", wet.endsIn(0), 40);
+        Check.due("refuge(0) from soap", wet.refuge(0), 0);
     }
 
     private static void refuge() {

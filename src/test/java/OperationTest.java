@@ -58,6 +58,10 @@ public final class OperationTest {
         x.undo();
         Check.due("size(4) after undo", x.size(4), 11);
         Check.due("boatAt(2, 3) after undo", x.boatAt(2, 3), -1);
+        Check.load(x, "bath 5 4;boat 1 1 1 9;boat 2 1 1 9 wet 7;");
+        Check.load(x, "bath 5 4;boat 1 1 1 9;");
+        x.addBoat(4, 1, 2, 3);
+        Check.due("boat 1 where an earlier text had a wet one", Check.boat(x, 1), "4 1 2 3 0 0 0 0 -1 0 0");
     }
 
     private static void carry() {
@@ -98,6 +102,7 @@ public final class OperationTest {
         Check.due("boat(0, 6)", x.boat(0, 6), 7);
         Check.due("blow(0, 0, 0)", x.blow(0, 0, 0), 37);
         Check.due("undoCount()", x.undoCount(), 6);
+        Check.due("blow(0, -300, 300)", x.blow(0, -300, 300), 600);
         Check.unchanged("blow(2, 1, 1) of a sunk boat", x, () -> x.blow(2, 1, 1), -2);
         for (int b : NO_BOATS) {
             Check.noElement("blow(" + b + ", 301, 0)", x, () -> x.blow(b, 301, 0));
@@ -294,6 +299,21 @@ public final class OperationTest {
         }
     }
 
+    private static void orderOfEnds() {
+        BathBoats x = Check.bath("bath 5 5 level 0;boat 0 0 1 1;boat 1 1 1 2;");
+        x.turn(2);
+        x.saveSnapshot();
+        Check.due("ended(0, 0)", x.ended(0, 0), 0);
+        x.undo();
+        Check.noElement("ended(0, 0) after undo", x, () -> x.ended(0, 0));
+        x.dropSoap(1, 1, 50);
+        x.turn(1);
+        Check.due("ended(0, 0) in soap", x.ended(0, 0), 1);
+        x.restoreSnapshot();
+        Check.due("ended(0, 0) after restoreSnapshot", x.ended(0, 0), 0);
+        Check.noElement("ended(1, 0) after restoreSnapshot", x, () -> x.ended(1, 0));
+    }
+
     private static void snapshot() {
         Check.part("promises 48 and 49, saveSnapshot and restoreSnapshot");
         BathBoats x = start();
@@ -320,6 +340,7 @@ public final class OperationTest {
         x.undo();
         Check.due("restoreSnapshot() of the second", x.restoreSnapshot(), true);
         Check.due("the second state", Check.state(x), second);
+        orderOfEnds();
         Check.load(x, "bath 5 5;x");
         Check.due("restoreSnapshot() after a load with an error", x.restoreSnapshot(), true);
         Check.load(x, "bath 5 5;");

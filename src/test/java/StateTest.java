@@ -20,6 +20,7 @@ public final class StateTest {
         softest();
         driesOut();
         shares();
+        lastCell();
         Check.end();
     }
 
@@ -145,6 +146,33 @@ public final class StateTest {
         Check.noElement("afloat(-1)", x, () -> x.afloat(-1));
     }
 
+    /** Twelve boats from the last cell backwards, the later ones weaker. */
+    private static String twelve() {
+        String text = "";
+        for (int b = 0; b < 12; b++) {
+            text += "boat " + (99 - b) % 10 + " " + (99 - b) / 10 + " 1 " + (12 - b) + ";";
+        }
+        return text;
+    }
+
+    private static void lastCell() {
+        Check.part("the last cell of the greatest bath");
+        BathBoats x = Check.bath("bath 10 10;tap 0 0 1;tap 1 0 2;tap 2 0 3;tap 3 0 4;tap 4 0 5;boat 8 9 9 99;"
+                + "soap 9 9 50;soap 0 0 7;");
+        Check.due("tap(4, 2)", x.tap(4, 2), 5);
+        Check.due("soap(9, 9)", x.soap(9, 9), 50);
+        Check.due("size(12)", x.size(12), 57);
+        Check.due("tow(0, 9, 9)", x.tow(0, 9, 9), 51);
+        Check.due("carry(0, 9, 9)", x.carry(0, 9, 9), 98);
+        Check.due("boatAt(9, 9)", x.boatAt(9, 9), 0);
+        Check.due("tow(0, 0, 9) out of the corner", x.tow(0, 0, 9), 9);
+        Check.due("towStep(0, 0, 9)", x.towStep(0, 0, 9), 98);
+        Check.due("calm(9, 9, 9999)", x.calm(9, 9, 9999), 100);
+        x.turn(1);
+        Check.due("soap(9, 9) then", x.soap(9, 9), 48);
+        Check.due("size(12) then", x.size(12), 57);
+    }
+
     private static void ended() {
         Check.part("promise 12, ended");
         BathBoats x = Check.bath("bath 5 5 level 0;drain 4 4 9 1;boat 0 1 1 2;boat 1 1 1 1;boat 4 4 1 9;boat 3 3 1 1;");
@@ -156,6 +184,13 @@ public final class StateTest {
                 Check.due("ended(" + i + ", " + what + ")", x.ended(i, what), due[i][what]);
             }
         }
+        BathBoats all = Check.bath("bath 10 10 level 0;" + twelve());
+        all.turn(13);
+        for (int i = 0; i < 12; i++) {
+            Check.due("ended(" + i + ", 0) of 12", all.ended(i, 0), 11 - i);
+            Check.due("ended(" + i + ", 3) of 12", all.ended(i, 3), 99 - (11 - i));
+        }
+        Check.due("the strength of boat 11", all.boat(11, 3), 1);
         for (int[] a : new int[][] {{-1, 0}, {4, 0}, {0, -1}, {0, 4}, {3, 4}}) {
             Check.noElement("ended(" + a[0] + ", " + a[1] + ")", x, () -> x.ended(a[0], a[1]));
         }

@@ -88,8 +88,18 @@ public final class TextTest {
         Check.due("undoCount()", x.undoCount(), 1);
         Check.badArgument("load(1) after an error", x, () -> x.load(1));
         Check.due("restoreSnapshot() after an error", x.restoreSnapshot(), true);
+        Check.feed(x, "bath 5 50;soap 1 1 1;");
+        Check.due("load that ends within a number", x.load(8), -11);
+        Check.due("its position", x.errorPosition(), 8);
+        Check.feed(x, "bath 5 5 level 10000;");
+        Check.due("load that ends within a great number", x.load(19), -11);
+        Check.due("its position", x.errorPosition(), 19);
+        Check.feed(x, "bath 5 5;soaps 1 1 1;");
+        Check.due("load that ends within a word", x.load(13), -11);
+        Check.due("its position", x.errorPosition(), 13);
         Check.due("load(0)", x.load(0), -11);
         Check.due("its position", x.errorPosition(), 0);
+        Check.load(x, "bath 4 4 level 9 push 8 wind 7 6;soap 0 0 5;");
         Check.due("load of defaults", Check.load(x, "bath 10 3 ; "), 0);
         Check.due("sizes", sizes(x), Arrays.asList(10, 3, 0, 0, 0, 0, 0, 0, 0, 500, 1, 0, 0, 0, 0));
         String five = "bath 5 5;";
