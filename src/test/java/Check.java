@@ -18,6 +18,11 @@ final class Check {
         part = name;
     }
 
+    /** The sentence of the document that the checks from here on are about, in the document's own words. */
+    static void sentence(String where, String words) {
+        part = where + ", \"" + words + "\"";
+    }
+
     static void due(String call, Object got, Object want) {
         checks++;
         if (!got.equals(want)) {
