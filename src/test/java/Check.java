@@ -7,6 +7,11 @@ final class Check {
         Object go();
     }
 
+    /** Numbers that are far out of any range; times 2 to 12, the last ones wrap around to small numbers. */
+    static final int[] FAR_NUMBERS = {Integer.MAX_VALUE, Integer.MIN_VALUE, Integer.MIN_VALUE + 1, 1 << 16, 1 << 30,
+        -(1 << 30), 1431655766, -1431655765, 715827883, 858993460, 858993459, -858993459, 390451573, -390451572,
+        429496730, 613566757};
+
     private static int wrong;
     private static int checks;
     private static String part = "";
@@ -115,6 +120,17 @@ final class Check {
         StringBuilder text = new StringBuilder();
         for (int what = 0; what <= 5; what++) {
             text.append(what == 0 ? "" : " ").append(x.drain(drain, what));
+        }
+        return text.toString();
+    }
+
+    /** The soap in all cells, the rows parted by commas. */
+    static String soaps(BathBoats x) {
+        StringBuilder text = new StringBuilder();
+        for (int y = 0; y < x.size(1); y++) {
+            for (int c = 0; c < x.size(0); c++) {
+                text.append(c > 0 ? " " : y > 0 ? "," : "").append(x.soap(c, y));
+            }
         }
         return text.toString();
     }

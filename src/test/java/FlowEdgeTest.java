@@ -1,7 +1,5 @@
 /** Promises 13 to 16 with "Flow": each sentence that names a boundary, with a test of its own. */
 public final class FlowEdgeTest {
-    private static final int[] FAR_NUMBERS = {Integer.MAX_VALUE, Integer.MIN_VALUE, 1 << 30, 858993459, -858993459, 429496730};
-
     public static void main(String[] args) {
         noSource();
         onlyWorkingDrains();
@@ -141,7 +139,7 @@ public final class FlowEdgeTest {
         for (int[] c : new int[][] {{-1, 0}, {5, 0}, {0, -1}, {0, 4}, {5, 3}, {4, 4}, {-1, 1}, {5, -1}}) {
             Check.noElement("flow in " + c[0] + ", " + c[1], x, () -> x.flow(c[0], c[1], true));
         }
-        for (int n : FAR_NUMBERS) {
+        for (int n : Check.FAR_NUMBERS) {
             Check.noElement("flow in column " + n, x, () -> x.flow(n, 0, false));
             Check.noElement("flow in row " + n, x, () -> x.flow(1, n, true));
         }

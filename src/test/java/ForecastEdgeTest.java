@@ -1,6 +1,5 @@
 /** Promises 22 to 28: each sentence that names a boundary, with a test of its own. */
 public final class ForecastEdgeTest {
-    private static final int[] FAR_NUMBERS = {Integer.MAX_VALUE, Integer.MIN_VALUE, 1 << 30, 390451573, -390451572};
     private static final String SUNK = "bath 5 4 level 0;boat 0 0 9 99;boat 4 3 9 1 wet 1;boat 2 2 9 9;drain 4 0 9 1;boat 4 0 1 9;";
 
     public static void main(String[] args) {
@@ -82,7 +81,7 @@ public final class ForecastEdgeTest {
         for (int b : new int[] {-1, 4, 12}) {
             Check.noElement("endsIn(" + b + ")", x, () -> x.endsIn(b));
         }
-        for (int b : FAR_NUMBERS) {
+        for (int b : Check.FAR_NUMBERS) {
             Check.noElement("endsIn(" + b + ")", x, () -> x.endsIn(b));
         }
         BathBoats none = new BathBoats();

@@ -1,7 +1,5 @@
 /** Promises 31, 32, 34 to 42 and 46 to 49 with "Operations": each sentence that names a boundary has its own test. */
 public final class OperationEdgeTest {
-    private static final int[] FAR_NUMBERS = {Integer.MAX_VALUE, Integer.MIN_VALUE, 1 << 30, 1 << 16, 390451573, -390451572,
-        858993459, 715827883, 1431655766};
     // boat 2 sinks and boat 3 is drained in the first turn; boat 4 lies upon a drain that is too small for it
     private static final String START = "bath 5 4 level 0 push 2 wind 3 -4;drain 4 3 50 10;drain 0 3 5 0;tap 2 2 7;tap 3 2 0;"
             + "boat 0 0 10 20 wet 3;boat 1 2 20 30;boat 3 3 5 1 wet 1;boat 4 3 9 99;boat 0 3 60 99;soap 1 2 25;soap 4 0 98;";
@@ -73,7 +71,7 @@ public final class OperationEdgeTest {
             for (int[] c : new int[][] {{-1, 0}, {5, 0}, {0, -1}, {0, 4}, {5, 3}, {4, 4}, {-1, 1}, {5, -1}}) {
                 Check.noElement("addBoat in " + c[0] + ", " + c[1], x, () -> x.addBoat(c[0], c[1], weight, 9));
             }
-            for (int n : FAR_NUMBERS) {
+            for (int n : Check.FAR_NUMBERS) {
                 Check.noElement("addBoat in column " + n, x, () -> x.addBoat(n, 1, weight, 0));
                 Check.noElement("addBoat in row " + n, x, () -> x.addBoat(1, n, weight, 1000));
             }

@@ -4,10 +4,6 @@ import java.util.function.IntFunction;
 public final class StateEdgeTest {
     private static final String SOME = "bath 5 4 level 0;drain 4 3 9 1;tap 1 1 5;boat 0 0 1 1;boat 1 2 1 50;boat 4 3 9 9;"
             + "soap 1 2 5;soap 4 3 6;";
-    // the last ones wrap around: times 2 to 12, plus 0 to 9, each is a small number in 32 bits
-    private static final int[] FAR_NUMBERS = {Integer.MAX_VALUE, Integer.MIN_VALUE, Integer.MIN_VALUE + 1, 1 << 30,
-        -(1 << 30), 1 << 16, 1431655766, -1431655765, 715827883, 858993460, 858993459, -858993459, 390451573, -390451572,
-        429496730, 1073741824, 613566757};
 
     public static void main(String[] args) {
         sizeRange();
@@ -40,7 +36,7 @@ public final class StateEdgeTest {
         for (int n : numbers) {
             Check.noElement(name + " of " + n, x, () -> call.apply(n));
         }
-        for (int n : FAR_NUMBERS) {
+        for (int n : Check.FAR_NUMBERS) {
             Check.noElement(name + " of " + n, x, () -> call.apply(n));
         }
     }

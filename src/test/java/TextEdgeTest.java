@@ -1,7 +1,6 @@
 /** Promises 1 to 4, 44 and 45: each sentence that names a boundary, in the document's words, with a test of its own. */
 public final class TextEdgeTest {
     private static final int SPACES = 0x20202020;
-    private static final int[] FAR_NUMBERS = {Integer.MAX_VALUE, Integer.MIN_VALUE, Integer.MIN_VALUE + 1, 1 << 16, 1 << 30};
 
     public static void main(String[] args) {
         newObject();
@@ -181,7 +180,7 @@ public final class TextEdgeTest {
         Check.due("bytes fed", Check.feed(x, "bath 5 5;soap 1 1 1;soap 2 2 2;         "), 40);
         Check.badArgument("load(-1)", x, () -> x.load(-1));
         Check.badArgument("load(41)", x, () -> x.load(41));
-        for (int length : FAR_NUMBERS) {
+        for (int length : Check.FAR_NUMBERS) {
             Check.badArgument("load(" + length + ")", x, () -> x.load(length));
         }
         Check.due("load of all", x.load(40), 0);
@@ -247,7 +246,7 @@ public final class TextEdgeTest {
         Check.due("formattedByte(3)", x.formattedByte(3), (int) 'a');
         Check.due("formattedByte(-1)", x.formattedByte(-1), -1);
         Check.due("formattedByte(4)", x.formattedByte(4), -1);
-        for (int i : FAR_NUMBERS) {
+        for (int i : Check.FAR_NUMBERS) {
             Check.due("formattedByte(" + i + ")", x.formattedByte(i), -1);
         }
         Check.sentence("promise 45", "as it was then (also after load, undo and restoreSnapshot)");

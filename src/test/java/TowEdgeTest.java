@@ -1,7 +1,5 @@
 /** Promises 20, 21 and 33 with "Towing": each sentence that names a boundary, with a test of its own. */
 public final class TowEdgeTest {
-    private static final int[] FAR_NUMBERS = {Integer.MAX_VALUE, Integer.MIN_VALUE, 1 << 30, 858993459, -858993459, 429496730,
-        390451573};
     private static final String SUNK = "bath 5 4 level 0;boat 0 0 9 99;boat 4 3 9 1 wet 1;boat 2 2 9 9;";
 
     public static void main(String[] args) {
@@ -175,7 +173,7 @@ public final class TowEdgeTest {
                 Check.noElement("towStep of " + b + " to " + c[0] + ", " + c[1], x, () -> x.towStep(boat, c[0], c[1]));
                 Check.noElement("pull of " + b + " to " + c[0] + ", " + c[1], x, () -> x.pull(boat, c[0], c[1], 9));
             }
-            for (int n : FAR_NUMBERS) {
+            for (int n : Check.FAR_NUMBERS) {
                 Check.noElement("tow of " + b + " to column " + n, x, () -> x.tow(boat, n, 1));
                 Check.noElement("tow of " + b + " to row " + n, x, () -> x.tow(boat, 1, n));
                 Check.noElement("towStep of " + b + " to row " + n, x, () -> x.towStep(boat, 1, n));

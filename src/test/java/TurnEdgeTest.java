@@ -404,20 +404,10 @@ public final class TurnEdgeTest {
         Check.due("how many after undo", x.drain(0, 5), 1);
     }
 
-    private static String soaps(BathBoats x) {
-        StringBuilder text = new StringBuilder();
-        for (int y = 0; y < x.size(1); y++) {
-            for (int c = 0; c < x.size(0); c++) {
-                text.append(c > 0 ? " " : y > 0 ? "," : "").append(x.soap(c, y));
-            }
-        }
-        return text.toString();
-    }
-
     private static String spread(String clauses) {
         BathBoats x = Check.bath("bath 3 3 level 0;" + clauses);
         x.turn(1);
-        return soaps(x);
+        return Check.soaps(x);
     }
 
     private static void spreadsFromFour() {

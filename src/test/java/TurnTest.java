@@ -201,30 +201,20 @@ public final class TurnTest {
         Check.due("the time of boat 2", x.boat(2, 8), 4);
     }
 
-    private static String soaps(BathBoats x) {
-        StringBuilder text = new StringBuilder();
-        for (int y = 0; y < x.size(1); y++) {
-            for (int c = 0; c < x.size(0); c++) {
-                text.append(c > 0 ? " " : y > 0 ? "," : "").append(x.soap(c, y));
-            }
-        }
-        return text.toString();
-    }
-
     private static void spreading() {
         Check.part("step 4");
         BathBoats x = Check.bath("bath 3 3 level 0;soap 1 1 4;");
         x.turn(1);
-        Check.due("4 in the middle", soaps(x), "0 1 0,1 0 1,0 1 0");
+        Check.due("4 in the middle", Check.soaps(x), "0 1 0,1 0 1,0 1 0");
         x = Check.bath("bath 3 3 level 0;soap 1 1 3;soap 0 0 4;soap 2 1 4;");
         x.turn(1);
-        Check.due("3 does not spread", soaps(x), "2 1 1,1 4 1,0 0 1");
+        Check.due("3 does not spread", Check.soaps(x), "2 1 1,1 4 1,0 0 1");
         x = Check.bath("bath 3 3 level 0;soap 1 1 99;soap 1 0 99;soap 0 0 99;");
         x.turn(1);
-        Check.due("99", soaps(x), "98 98 1,2 96 1,0 1 0");
+        Check.due("99", Check.soaps(x), "98 98 1,2 96 1,0 1 0");
         x = Check.bath("bath 4 3 level 0;soap 0 0 4;soap 1 0 3;soap 3 2 9;");
         x.turn(1);
-        Check.due("all at the same time", soaps(x), "2 4 0 0,1 0 0 1,0 0 1 7");
+        Check.due("all at the same time", Check.soaps(x), "2 4 0 0,1 0 0 1,0 0 1 7");
         x = Check.bath("bath 3 3 level 9 push 9;boat 0 1 9 99;soap 1 1 5;");
         x.turn(1);
         Check.due("soap pushes before it spreads", x.boat(0, 5), -45);
